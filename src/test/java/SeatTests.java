@@ -40,6 +40,14 @@ public final class SeatTests {
         Check.due("ONE 2 sits where ONE 0 sat", x.broken(0), 1 + 4 + 16 + 32);
         Check.allDue("broken", Check.BAD, x.broken(-1), x.broken(12));
         Check.due("no wants", Check.hall(THREE).broken(0), 0);
+        HallAnswers z = Check.hall("bench 0 6 0 99;".repeat(5) + "bench 7 0 6 1;"
+                + "bench 6 6 0 99;bench 6 0 2 1;join 0 5;join 5 0;");
+        z.sit(0, 7);
+        Check.due("on BENCH 7", z.broken(0), 0);
+        Check.due("SEATINGS with ONE 5", z.seating(0, 1), 2 * 5 * 6 * 4 * 3);
+        Check.due("no one BROKEN", z.seating(0, 0), 0);
+        Check.due("ONE 0", z.seating(0, 10), 5);
+        Check.due("ONE 5", z.seating(0, 15), 7);
         HallAnswers y = Check.hall("hall 9 3;bench 0 0 1 97 turned;bench 1 0 6 97;join 0 1;");
         Check.due("hour 0", y.broken(0), 1);
         Check.due("hour 1", y.broken(1), 0);
@@ -108,6 +116,10 @@ public final class SeatTests {
         HallAnswers x = Check.hall("hall 9 3;bench 0 0 2 50;bench 2 0 6 50;bench 8 0 0 50 moving;bar 0 1;");
         Check.due("hour 0", x.curtain(0, 0), 1);
         Check.due("a BENCH has moved there", x.curtain(2, 0), Check.NONE);
+        Check.due("BENCH 0 has moved there", Check.hall("hall 9 3;bench 7 0 0 50 moving;bench 0 0 2 50;bench 2 0 6 50;"
+                + "bar 1 2;").curtain(3, 0), Check.NONE);
+        Check.due("CELL 0", Check.hall("hall 9 3;bench 1 0 6 50;bench 2 0 2 50;bar 0 1;").curtain(0, 0), 0);
+        Check.due("the last CELL", Check.hall("hall 9 9;bench 7 8 2 50;bench 6 8 2 50;bar 0 1;").curtain(0, 0), 80);
         Check.due("where it was put is free then", Check.hall("hall 9 3;bench 0 0 2 50;bench 2 0 6 50;"
                 + "bench 1 0 0 50 moving;bar 0 1;").curtain(1, 0), 1);
         Check.due("nor where it is put", Check.hall("hall 9 3;bench 0 0 2 50;bench 2 0 6 50;"
@@ -168,6 +180,10 @@ public final class SeatTests {
         Check.due("all alike", y.best(0, 0), 0);
         Check.due("one is BROKEN", y.best(0, 1), 1);
         Check.due("warm 9", Check.hall("hall 5 3;fade 1;bounce 0;bench 1 0 2 50;bench 2 1 0 50;join 0 1;").best(0, 1), 0);
+        HallAnswers z = Check.hall("hall 9 9;fade 1;bounce 0;bench 0 0 2 50;bench 7 1 6 91;bench 7 1 0 92;pillar 8 1;"
+                + "join 0 1;bar 0 2;");
+        Check.due("warm 9 alone", z.best(0, 0), 9);
+        Check.due("warm 9 alone", z.best(0, 1), 0);
         Check.allDue("best", Check.BAD, x.best(-1, 0), x.best(12, 0), x.best(0, -1), x.best(0, 2));
     }
 }

@@ -68,7 +68,11 @@ public final class SecretTests {
             Check.due("ONE 3 behind " + n, x.knows(3, n), ofThree[n]);
         }
         Check.due("who whispers KNOWS it", x.knows(0, 1), 32);
-        Check.allDue("knows", Check.BAD, x.knows(-1, 0), x.knows(4, 0), x.knows(0, -1), x.knows(0, 6));
+        x.say(11, 3, 0);
+        x.say(11, 3, 7);
+        Check.due("the first, the last SECRET", x.knows(3, 7), 1 + 32 + 64 + 128);
+        Check.due("as many as are asked for", x.knows(3, 6), 1 + 32 + 64);
+        Check.allDue("knows", Check.BAD, x.knows(-1, 0), x.knows(4, 0), x.knows(0, -1), x.knows(0, 8));
     }
 
     private static void since() {
@@ -134,6 +138,9 @@ public final class SecretTests {
         Check.allDue("murmur", Check.BAD, x.murmur(5, 0, 0), x.murmur(5, 13, 0), x.murmur(5, -1, 0), x.murmur(5, 1, -1),
                 x.murmur(5, 1, 12), new HallAnswers().murmur(5, 0, 0), new HallAnswers().murmur(5, 1, 12));
         Check.due("no people", new HallAnswers().murmur(5, 1, 0), Check.STATE);
+        HallAnswers y = Check.hall(ROW + "people 1;");
+        Check.due("one ONE", y.murmur(3, 6, 0), 6);
+        Check.due("he whispers", y.said(5, 1), 0);
         Check.due("people 0", Check.hall(ROW + "people 0;").murmur(5, 12, 11), Check.STATE);
     }
 

@@ -188,7 +188,9 @@ public final class SheetTests {
         x.sheet(0, 0, 17);
         x.hang(0, 0);
         x.hang(20, 2);
-        int[] counts = {3, 2, 3, 3, 1, 1, 8, 17};
+        x.hang(62, 1);
+        Check.due("the first CELL, the last", Check.hall("pillar 0 0;curtain 8 6;").count(2), 2);
+        int[] counts = {3, 2, 4, 3, 1, 1, 8, 17};
         for (int what = 0; what < counts.length; what++) {
             Check.due("count " + what, x.count(what), counts[what]);
         }

@@ -114,6 +114,8 @@ public final class TextTests {
         }
         Check.due("eight benches", Check.tell(x, eight), 8);
         Check.due("six people", x.count(1), 6);
+        Check.due("ONE 5", Check.tell(x, eight + "whisper 0 5 0;join 5 0;join 0 5;"), 11);
+        Check.due("ONE 5", x.said(0, 1), 5);
         Check.due("people 0", Check.tell(x, "people 0;" + eight), 9);
         Check.due("no people", x.count(1), 0);
         Check.due("people 6 ahead of the benches", Check.tell(x, "people 6;" + eight), 9);
@@ -177,6 +179,10 @@ public final class TextTests {
         due(";", 200);
         due("7;", 200);
         due("benches", 200);
+        due("xade 1;", 200);
+        due("fadx 1;", 200);
+        due("fade 1;z", 207);
+        due("fade 1;a", 207);
         due("plain", 200);
         due("fade", 204);
         due("fade  ", 206);

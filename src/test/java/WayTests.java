@@ -52,6 +52,11 @@ public final class WayTests {
         seats(x, Check.NONE, 0, 1);
         Check.allDue("sit", Check.BAD, x.sit(-1, 0), x.sit(2, 0), x.sit(0, -1), x.sit(0, 3), x.sit(6, 8));
         seats(x, Check.NONE, 0, 1);
+        HallAnswers y = Check.hall("bench 0 0 0 1;bench 1 0 0 1;bench 2 0 0 1;bench 3 0 0 1;bench 4 0 0 1;bench 5 0 0 1;"
+                + "bench 6 0 0 1;bench 7 0 0 1;");
+        Check.due("ONE 5 to BENCH 7", y.sit(5, 7), 5);
+        Check.due("ONE 0 to BENCH 7", y.sit(0, 7), 0);
+        seats(y, 5, 1, 2, 3, 4, Check.NONE, Check.NONE, 0);
     }
 
     private static void seats(HallAnswers x, int... sitters) {
@@ -128,6 +133,7 @@ public final class WayTests {
     private static void endings() {
         HallAnswers x = Check.hall("hall 9 3;fade 20;bounce 0;bench 0 0 2 1;");
         Check.due("loud 0 is not come to", x.steps(0, 0), 4);
+        Check.due("LOUD 1 is", Check.hall("hall 9 3;fade 11;bounce 0;bench 0 0 2 1;").steps(0, 0), 9);
         HallAnswers y = Check.hall("hall 3 3;fade 0;bounce 50;bench 0 0 2 1;");
         Check.due("two bounces end it", y.steps(0, 0), 4);
         HallAnswers z = Check.hall("bench 0 0 2 1;curtain 5 0;pillar 7 0;");
@@ -158,6 +164,7 @@ public final class WayTests {
         Check.due("beside the way", x.hears(0, 5, 0, 0), Check.NONE);
         Check.allDue("hears", Check.BAD, x.hears(0, 0, 0, 0), x.hears(-1, 0, 0, 0), x.hears(0, -1, 0, 0), x.hears(6, 0, 0, 0),
                 x.hears(0, 6, 0, 0), x.hears(0, 1, -1, 0), x.hears(0, 1, 12, 0), x.hears(0, 1, 0, -1), x.hears(0, 1, 0, 3));
+        Check.due("by STEP 40", Check.hall("hall 4 8;fade 0;bounce 0;bench 1 2 5 1;bench 3 0 0 1;").hears(0, 1, 0, 1), 40);
         HallAnswers y = Check.hall("hall 5 3;bench 0 0 2 100;bench 4 0 6 90;bench 4 0 6 90 listening;");
         Check.due("EAR 90", y.hears(0, 1, 0, 0), Check.NONE);
         Check.due("EAR 45", y.hears(0, 2, 0, 0), 88);
