@@ -516,7 +516,7 @@ public final class HallAnswers {
     }
 
     private int whisperMore(int hour, int p, int secret) {
-        if (!isHour(hour) || hour < told.whispers.latestHour() || !isOne(p) || !isSecret(secret)) {
+        if (!isHour(hour) || hour < told.latestHour() || !isOne(p) || !isSecret(secret)) {
             return BAD;
         }
         if (told.whispers.count >= MOST_WHISPERS) {
@@ -592,7 +592,7 @@ public final class HallAnswers {
         private final int[] kinds = new int[MOST_BENCHES];
 
         void add(int x, int y, int facing, int ear, int kind) {
-            if (count >= MOST_BENCHES) {
+            if (count < 0 || count >= MOST_BENCHES) {
                 return;
             }
             xs[count] = x;
@@ -653,79 +653,41 @@ public final class HallAnswers {
         }
     }
 
-    /** The WANTS: who is, or is not, to be heard by whom. */
-    private static final class Wants {
-        int count = 0;
-        private final int[] speakers = new int[MOST_WANTS];
-        private final int[] hearers = new int[MOST_WANTS];
-        private final int[] joined = new int[MOST_WANTS];
+    /** Rows of three numbers: WANTS are who, whom, whether JOINED; WHISPERS are HOUR, ONE, SECRET. */
+    private static final class Triples {
+        /** There are fewer WANTS than WHISPERS. */
+        private static final int MOST = MOST_WHISPERS;
 
-        void add(int speaker, int hearer, int isJoined) {
-            if (count >= MOST_WANTS) {
+        int count = 0;
+        private final int[] firsts = new int[MOST];
+        private final int[] seconds = new int[MOST];
+        private final int[] thirds = new int[MOST];
+
+        void add(int first, int second, int third) {
+            if (count < 0 || count >= MOST) {
                 return;
             }
-            speakers[count] = speaker;
-            hearers[count] = hearer;
-            joined[count] = isJoined;
+            firsts[count] = first;
+            seconds[count] = second;
+            thirds[count] = third;
             count++;
         }
 
-        void copyFrom(Wants other) {
+        void copyFrom(Triples other) {
             count = other.count;
-            System.arraycopy(other.speakers, 0, speakers, 0, MOST_WANTS);
-            System.arraycopy(other.hearers, 0, hearers, 0, MOST_WANTS);
-            System.arraycopy(other.joined, 0, joined, 0, MOST_WANTS);
+            System.arraycopy(other.firsts, 0, firsts, 0, MOST);
+            System.arraycopy(other.seconds, 0, seconds, 0, MOST);
+            System.arraycopy(other.thirds, 0, thirds, 0, MOST);
         }
 
         int part(int i, int what) {
-            if (!within(i, 0, count - 1)) {
+            if (i < 0 || i >= count || i >= MOST) {
                 return BAD;
             }
             switch (what) {
-                case 0: return speakers[i];
-                case 1: return hearers[i];
-                case 2: return joined[i];
-                default: return BAD;
-            }
-        }
-    }
-
-    /** The WHISPERS, one behind another. */
-    private static final class Whispers {
-        int count = 0;
-        private final int[] hours = new int[MOST_WHISPERS];
-        private final int[] speakers = new int[MOST_WHISPERS];
-        private final int[] secrets = new int[MOST_WHISPERS];
-
-        void add(int hour, int speaker, int secret) {
-            if (count >= MOST_WHISPERS) {
-                return;
-            }
-            hours[count] = hour;
-            speakers[count] = speaker;
-            secrets[count] = secret;
-            count++;
-        }
-
-        void copyFrom(Whispers other) {
-            count = other.count;
-            System.arraycopy(other.hours, 0, hours, 0, MOST_WHISPERS);
-            System.arraycopy(other.speakers, 0, speakers, 0, MOST_WHISPERS);
-            System.arraycopy(other.secrets, 0, secrets, 0, MOST_WHISPERS);
-        }
-
-        int latestHour() {
-            return within(count, 1, MOST_WHISPERS) ? hours[count - 1] : 0;
-        }
-
-        int part(int i, int what) {
-            if (!within(i, 0, count - 1)) {
-                return BAD;
-            }
-            switch (what) {
-                case 0: return hours[i];
-                case 1: return speakers[i];
-                case 2: return secrets[i];
+                case 0: return firsts[i];
+                case 1: return seconds[i];
+                case 2: return thirds[i];
                 default: return BAD;
             }
         }
@@ -742,8 +704,8 @@ public final class HallAnswers {
         private final int[] cells = new int[ALL_CELLS];
         private final int[] seats = new int[MOST_PEOPLE];
         final Benches benches = new Benches();
-        final Wants wants = new Wants();
-        final Whispers whispers = new Whispers();
+        final Triples wants = new Triples();
+        final Triples whispers = new Triples();
 
         Told() {
             startAnew();
@@ -817,6 +779,10 @@ public final class HallAnswers {
                 }
             }
             return false;
+        }
+
+        int latestHour() {
+            return whispers.count > 0 ? whispers.part(whispers.count - 1, 0) : 0;
         }
 
         int seatOf(int p) {
@@ -1065,7 +1031,7 @@ public final class HallAnswers {
             if (draft.whispers.count >= MOST_WHISPERS) {
                 failHere(TOO_MANY);
             }
-            int hour = readNumber(draft.whispers.latestHour(), HOURS - 1);
+            int hour = readNumber(draft.latestHour(), HOURS - 1);
             int speaker = readNumber(0, MOST_PEOPLE - 1);
             draft.whispers.add(hour, speaker, readNumber(0, SECRETS - 1));
             readSign();
