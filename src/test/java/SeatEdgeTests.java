@@ -7,6 +7,7 @@ public final class SeatEdgeTests {
     private static final String ASIDE = "bench 0 2 4 100;";
 
     public static void main(String[] args) {
+        byTheirBenches();
         can();
         broken();
         allBroken();
@@ -23,6 +24,20 @@ public final class SeatEdgeTests {
         days();
         best();
         Check.finish("SeatEdgeTests");
+    }
+
+    private static void byTheirBenches() {
+        Check.about("Terms", "A ONE HEARS another one by their BENCHES.");
+        // BENCH 0 is HEARD by BENCH 1 alone, BENCHES 1 and 3 by one another, BENCH 2 by nobody
+        HallAnswers x = Check.hall("hall 9 3;fade 20;bounce 50;bench 0 0 2 80;bench 1 0 4 80;bench 8 2 6 80;bench 1 1 0 100listening;people 3;"
+                + "join 0 1;join 1 2;bar 2 1;");
+        long[][] due = {{1, 0, 0, 0, 2}, {0, 0, 0, 0, 7}, {0, 1, 0, 0, 5}, {1, 1, 0, 0, 4}};
+        int[][] sits = {{0, 0}, {0, 2}, {2, 3}, {0, 0}};
+        for (int i = 0; i < due.length; i++) {
+            x.sit(sits[i][0], sits[i][1]);
+            Check.eachDue("as they sit, " + i, due[i], x.can(0, 1, 0), x.can(1, 2, 0), x.can(0, 2, 0), x.can(2, 0, 0), x.broken(0));
+            Check.eachDue("the BENCHES do as before, " + i, Check.row(2, 8, 0, 2), x.heard(0, 0), x.heard(1, 0), x.heard(2, 0), x.heard(3, 0));
+        }
     }
 
     private static void can() {

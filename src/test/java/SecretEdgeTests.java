@@ -7,6 +7,7 @@ public final class SecretEdgeTests {
         + "bench 4 0 2 80;bench 5 0 0 80;";
 
     public static void main(String[] args) {
+        twelve();
         whisperedIf();
         inItsHour();
         allSecrets();
@@ -23,6 +24,24 @@ public final class SecretEdgeTests {
         murmurDraws();
         murmurRefuses();
         Check.finish("SecretEdgeTests");
+    }
+
+    private static void twelve() {
+        Check.about("Terms", "WHISPERS (12), one behind another");
+        String twelve = "bench0 0 0 1;" + "whisper0 0 0;".repeat(12);
+        for (int told = 0; told <= 12; told++) {
+            HallAnswers x = Check.hall("bench0 0 0 1;" + "whisper0 0 0;".repeat(told));
+            for (int i = told; i < 12; i++) {
+                Check.due("said behind " + i, x.say(0, 0, 0), i + 1);
+            }
+            Check.eachDue("the 13th", Check.row(Check.FULL, 12), x.say(11, 0, 7), x.count(4));
+        }
+        HallAnswers x = Check.hall(twelve);
+        x.sheet(0, 0, 36);
+        Check.eachDue("the 13th that is read", Check.row(-20, 12, 11, -21, 11), x.read(0, 0, 0, 1), x.unsay(11), x.count(4), x.read(0, 0, 0, 2),
+                x.count(4));
+        Check.eachDue("twelve in place of twelve", Check.row(1, 12, 12), x.read(0, 0, 0, 1), x.murmur(0, 12, 0), x.count(4));
+        Check.dueFault(twelve + "whisper0 0 0;", 5, twelve.length());
     }
 
     private static void whisperedIf() {

@@ -66,6 +66,12 @@ public final class TextEdgeTests {
         Check.dueFault("fade 123;", 3, 5);
         Check.due("two figures are one NUMBER", Check.hall("fade 12;").rule(2), 12);
         Check.due("a NUMBER ends a NAME", Check.hall("fade12;").rule(2), 12);
+        for (int n : new int[]{100, 319, 320}) {
+            Check.dueFault("x".repeat(n), 2, 0);
+            Check.dueFault("1".repeat(n), 1, 0);
+            Check.dueFault("0".repeat(n), 1, 0);
+        }
+        Check.dueFault("fade" + "0".repeat(316), 1, 4);
         Check.dueFault("fade;;", 2, 4);
         Check.dueFault("fade 1;;", 2, 7);
     }
@@ -221,6 +227,7 @@ public final class TextEdgeTests {
         Check.eachDue("what comes behind comes there", Check.row(8, 1, 19), e.count(6), e.text(), e.rule(2));
         Check.eachDue("none", Check.row(0, 8, 8, 0), e.end(0), e.feed(0), e.end(0), e.count(6));
         Check.due("nothing is left of it", Check.tell(e, "fade 3;"), 1);
+        behindTheEnd();
         HallAnswers full = withBytes(320);
         Check.eachDue("of a full one", Check.row(320, 320, 319, Check.BAD),
                 full.end(320), full.end(319), full.end(312), full.end(313));
@@ -232,6 +239,21 @@ public final class TextEdgeTests {
         Twins.refused("end of the least", Check.BAD, Halls::rich, y -> y.end(Integer.MIN_VALUE));
         Twins.refused("end of the greatest", Check.BAD, Halls::rich, y -> y.end(Integer.MAX_VALUE));
         Check.due("as many as there are", Halls.rich().end(13), 13);
+    }
+
+    /** What end() has cut off is not read, however it would go on. */
+    private static void behindTheEnd() {
+        String[] texts = {"fade 999;", "fade 9;?", "fade 9;;", "bench 1 1 1 1raised;", "hallo", "fade 9; fade", "fade 1    ;"};
+        int[] kept = {6, 7, 7, 15, 4, 8, 7};
+        int[] due = {-16, 1, 1, -23, -14, 1, -17};
+        for (int i = 0; i < texts.length; i++) {
+            HallAnswers x = new HallAnswers();
+            Check.feed(x, texts[i]);
+            Check.eachDue(texts[i] + " but for what is behind " + kept[i], Check.row(texts[i].length(), due[i]), x.end(kept[i]), x.text());
+        }
+        HallAnswers used = new HallAnswers();
+        Check.tell(used, "9".repeat(320));
+        Check.eachDue("nor what an earlier text left", Check.row(-16, 2), Check.tell(used, "fade 9"), used.fault());
     }
 
     private static HallAnswers withBytes(int n) {

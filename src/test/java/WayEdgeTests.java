@@ -213,6 +213,7 @@ public final class WayEdgeTests {
     }
 
     private static void hearsTheFirstTime() {
+        Check.about("Terms", "LATE: how many STEPS.");
         HallAnswers x = Check.hall("hall 4 3;fade 1;bounce 0;bench 0 0 2 1;bench 2 0 0 1;bench 0 0 0 1;bench 0 0 0 95;");
         Check.eachDue("it comes there in STEPS 2, 4, 8", Check.row(2, 98), x.hears(0, 1, 0, 1), x.hears(0, 1, 0, 0));
         Check.eachDue("on the CELL where it begins: not by STEP 0", Check.row(6, 94, 1, Check.NONE), x.hears(0, 2, 0, 1),
